@@ -77,6 +77,10 @@ final class ActsTest {
         Check.due("for what it costs that one", x.sell(0, 0), 23);
         Check.due("the buyer's purse", x.broker(0, 0), 47);
         Check.due("the seller's purse", x.broker(1, 0), 63);
+        ArchEnds y = Check.of("broker 50 at 0 pace 2;broker 20 at 5 pace 1;deed 4 from 3 to 40 price 20");
+        y.buy(0, 0);
+        Check.due("for all of a purse", y.sell(0, 1), 20);
+        Check.due("the buyer's purse", y.broker(1, 0), 0);
     }
 
     private static void walks() {
@@ -244,7 +248,7 @@ final class ActsTest {
     }
 
     private static void logOfSixty() {
-        ArchEnds x = Check.of("broker 999 at 0 pace 2;road 8;wage 0;shower 0 to 15 from 0 to 999;deed 4 from 0 to 999 price 0;"
+        ArchEnds x = Check.of("broker 999 at 0 pace 2;road 8;wage 0;shower 0 to 15 from 0 to 999;deed 4 from 0 to 999 price 0;broker 1 at 1 pace 1;"
                 + "deed 5 from 0 to 999 price 0;deed 6 from 0 to 999 price 0;deed 4 from 0 to 999 price 0");
         for (int i = 0; i < 4; i++) {
             x.buy(0, i);
@@ -262,6 +266,15 @@ final class ActsTest {
         Check.due("led(4)", x.led(4, false), 24);
         Check.due("led(5)", x.led(5, false), 18);
         Check.due("led(4) when", x.led(4, true), 192 + 18);
+        x.minutes(14);
+        Check.due("60 rows still", x.count(10), 60);
+        x.undo();
+        Check.due("the owner", x.deed(0, 4), 0);
+        x.sell(0, 1);
+        x.minutes(13);
+        Check.due("no foot", x.count(10), 60);
+        x.undo();
+        x.undo();
         x.undo();
         Check.due("rows undone", x.count(10), 48);
         Check.due("the latest then", x.log(0, 0), 96 + 30);
@@ -322,6 +335,7 @@ final class ActsTest {
         Check.dueThrow("span(101)", NO_NUMBER, () -> x.span(101, true));
         Check.dueThrow("span(-1)", NO_NUMBER, () -> x.span(-1, false));
         Check.due("seed stays", x.seed(1), 5);
+        spanOfEachSeed();
         int[][] spans = {{8, 0, 0}, {9, 0, 6}, {39, 0, 6}, {55, 0, 6}, {56, 6, 6}, {100, 6, 6}};
         for (int[] s : spans) {
             ArchEnds y = Check.of(chance(s[0]));
@@ -332,6 +346,18 @@ final class ActsTest {
             Check.due("seed stays", y.seed(1), 77);
             Check.due("span(0)", y.span(0, true), 0);
         }
+    }
+
+    /** Seeds 1 to 6 draw 38, 8, 47, 17, 55, 26 first and 58, 17, 7, 66, 57, 15 then. */
+    private static void spanOfEachSeed() {
+        String fair = "broker 50 at 0 pace 2;deed 4 from 3 to 40 price 20;";
+        ArchEnds x = Check.of(fair + "shower 4 to 4 from 13 to 15 chance 27;shower 4 to 4 from 16 to 18 chance 16");
+        x.buy(0, 0);
+        Check.due("both come by seed 6 alone", x.span(50, true), 6);
+        Check.due("none comes by seed 1", x.span(50, false), 0);
+        ArchEnds y = Check.of(fair + "shower 4 to 4 from 13 to 15 chance 38;shower 4 to 4 from 16 to 18 chance 58");
+        y.buy(0, 0);
+        Check.due("none comes by seed 1 alone", y.span(50, false), 0);
     }
 
     private static void undone() {

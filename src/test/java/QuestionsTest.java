@@ -52,7 +52,7 @@ final class QuestionsTest {
     private static void showersDrift() {
         ArchEnds x = Check.of("shower 6 to 9 from 10 to 40 east 1;shower 0 to 3 from 10 to 40 west 2;shower 5 to 5 from 13 to 13");
         int[][] wets = {{6, 9, 0}, {6, 10, 1}, {5, 10, 0}, {9, 13, 1}, {6, 13, 1}, {6, 14, 0}, {10, 14, 1}, {7, 17, 1}, {7, 18, 0},
-            {0, 13, 2}, {1, 14, 2}, {2, 14, 0}, {0, 18, 0}, {15, 34, 1}, {12, 37, 1}, {12, 38, 0}, {13, 38, 1}, {12, 34, 1}, {11, 34, 0},
+            {0, 13, 2}, {1, 14, 2}, {2, 14, 0}, {0, 18, 0}, {15, 34, 1}, {12, 37, 1}, {12, 38, 0}, {15, 38, 1}, {0, 14, 2}, {0, 17, 2}, {13, 38, 1}, {12, 34, 1}, {11, 34, 0},
             {15, 46, 0}, {5, 13, 4}, {5, 12, 0}, {5, 14, 0}};
         for (int[] w : wets) {
             Check.due("wets(" + w[0] + ", " + w[1] + ")", x.wets(w[0], w[1]), w[2]);
@@ -94,6 +94,13 @@ final class QuestionsTest {
         Check.due("best(60, 4)", x.best(60, 4), 9);
         Check.due("best(30, 5) of none", x.best(30, 5), 0);
         Check.due("best(16, 5)", x.best(16, 5), 4);
+        Check.due("best(0, 1)", x.best(0, 1), 0);
+        Check.due("best(1, 1)", x.best(1, 1), 2);
+        Check.due("best of acre 1", Check.of("road 7;shower 1 to 1 from 0 to 9").best(0, 96), 1);
+        ArchEnds y = Check.of("road 6;shower 0 to 0 from 1 to 6;shower 1 to 1 from 7 to 9");
+        Check.due("best of acre 0", y.best(0, 96), 0);
+        Check.due("best anew", y.best(7, 5), 1);
+        Check.due("site(3, 0, 1)", x.site(3, 0, 1), 0);
         Check.due("first(5, 0)", x.first(5, 0), 19);
         Check.due("first(5, 20)", x.first(5, 20), 20);
         Check.due("first(5, 21)", x.first(5, 21), -1);
@@ -152,6 +159,8 @@ final class QuestionsTest {
         Check.dueThrow("hope(-1)", NO_SUCH, () -> x.hope(-1));
         ArchEnds y = Check.of("shower 0 to 9 from 0 to 9 chance 1;".repeat(5) + "shower 0 to 9 from 0 to 9 chance 1");
         Check.due("six by 1 of 100", y.odds(0, 0), 585);
+        ArchEnds z = Check.of("shower 0 to 9 from 1 to 1 chance 99;shower 0 to 9 from 1 to 1 chance 99;deed 2 from 0 to 9 price 1");
+        Check.due("rounded down at last", z.hope(0), 99);
     }
 
     private static void gainAndDeals() {
@@ -181,6 +190,10 @@ final class QuestionsTest {
                 + "deed 2 from 1 to 2 price 5;deed 2 from 3 to 4 price 5;deed 2 from 3 to 3 price 5");
         Check.due("of several the least", y.deals(0, false), 3);
         Check.due("how much", y.deals(0, true), 10);
+        ArchEnds z = Check.of("broker 10 at 1 pace 1;wage 6;shower 2 to 2 from 1 to 1;deed 2 from 1 to 2 price 5");
+        Check.due("a gain of 1", z.deals(0, false), 1);
+        Check.due("how much", z.deals(0, true), 1);
+        Check.dueThrow("gain(-1, 0)", NO_SUCH, () -> y.gain(-1, 0));
         Check.dueThrow("gain(1, 0)", NO_SUCH, () -> y.gain(1, 0));
         Check.dueThrow("gain(0, 4)", NO_SUCH, () -> y.gain(0, 4));
         Check.dueThrow("deals(1)", NO_SUCH, () -> y.deals(1, true));
@@ -195,7 +208,9 @@ final class QuestionsTest {
         Check.due("meet(0, 2)", x.meet(0, 2), 2);
         Check.due("meet(0, 3)", x.meet(0, 3), 4);
         Check.dueThrow("meet(0, 0)", NO_NUMBER, () -> x.meet(0, 0));
+        Check.due("meet at acre 0", Check.of("broker 0 at 0 pace 1;broker 0 at 0 pace 1").meet(0, 1), 0);
         Check.dueThrow("meet(4, 4)", NO_SUCH, () -> x.meet(4, 4));
+        Check.dueThrow("meet(4, 0)", NO_SUCH, () -> x.meet(4, 0));
         Check.dueThrow("meet(0, -1)", NO_SUCH, () -> x.meet(0, -1));
         int[] rush = {2, 2, 0, 0, 0, 0, 0, 0, 0, 1, 1, 1, 1, 1, 1, 1};
         for (int acre = 0; acre < 16; acre++) {
@@ -267,6 +282,10 @@ final class QuestionsTest {
         Check.due("2 was wet", seen(x, false, 2, 1), 6);
         Check.due("0 was wet", seen(x, false, 0, 1), 4);
         Check.due("0 was wet, sure", seen(x, true, 0, 1), 1);
+        Check.due("1 was wet", seen(x, false, 1, 1), 4);
+        Check.due("3 was wet", seen(x, false, 3, 1), 6);
+        Check.due("4 was not", seen(x, false, 4, 0), 4);
+        Check.due("3 was not", seen(x, false, 3, 0), 2);
         Check.due("0 was wet, 5 not", seen(x, false, 0, 1, 5, 0), 2);
         Check.due("0 not, 2 was wet", seen(x, true, 0, 0, 2, 1), 2);
         Check.due("wet and not", seen(x, false, 0, 1, 0, 0), 0);
@@ -279,6 +298,18 @@ final class QuestionsTest {
         x.tell(2, 2);
         Check.due("one that does not", seen(x, false), 4);
         Check.due("8 was wet", seen(x, false, 8, 1), 0);
+        x.tell(0, 1);
+        Check.due("the first one comes", seen(x, false), 2);
+        Check.due("the first one comes, sure", seen(x, true), 1);
+        x.tell(0, 2);
+        Check.due("the first one does not", seen(x, false), 2);
+        Check.due("0 was wet without it", seen(x, false, 0, 1), 0);
+        x.undo();
+        x.undo();
+        ArchEnds one = Check.of("shower 3 to 3 from 0 to 9");
+        Check.due("one shower", seen(one, false), 2);
+        Check.due("one shower, not sure", seen(one, true), 0);
+        Check.due("one shower, asked", ask(one), 3);
         tellSights(x, 0, 1);
         Check.due("in another minute", x.seen(10, false), 0);
         Check.due("the tape is used up", x.end(1), false);
@@ -334,6 +365,8 @@ final class QuestionsTest {
         Check.due("both(8, 9, 0, 30)", x.both(8, 9, 0, 30), 18);
         Check.due("both(9, 8, 0, 30)", x.both(9, 8, 0, 30), 18);
         Check.due("both(8, 11, 0, 96)", x.both(8, 11, 0, 96), 6);
+        Check.due("both(8, 9, 0, 1)", x.both(8, 9, 0, 1), 0);
+        Check.dueThrow("both(16, 1)", NO_SUCH, () -> x.both(16, 1, 0, 30));
         Check.due("both(8, 9, 18, 1)", x.both(8, 9, 18, 1), 1);
         Check.due("both(8, 9, 19, 1)", x.both(8, 9, 19, 1), 0);
         Check.due("both(8, 1, 0, 96)", x.both(8, 1, 0, 96), 0);
@@ -359,6 +392,8 @@ final class QuestionsTest {
         Check.dueThrow("both brokers are one", NO_NUMBER, () -> x.rests(0, 0, 0, 1));
         Check.dueThrow("both deeds are one", NO_NUMBER, () -> x.rests(0, 1, 1, 1));
         Check.dueThrow("no broker", NO_SUCH, () -> x.rests(2, 2, 1, 1));
+        Check.dueThrow("no first broker", NO_SUCH, () -> x.rests(2, 0, 0, 1));
+        Check.dueThrow("no first deed", NO_SUCH, () -> x.rests(0, 1, 5, 1));
         Check.dueThrow("no other", NO_SUCH, () -> x.rests(0, -1, 1, 1));
         Check.dueThrow("no deed a", NO_SUCH, () -> x.rests(0, 0, 5, 5));
         Check.dueThrow("no deed b", NO_SUCH, () -> x.rests(0, 0, 0, -1));
@@ -367,6 +402,10 @@ final class QuestionsTest {
         ArchEnds z = Check.of("shower 0 to 9 from 7 to 7 chance 3;broker 0 at 0 pace 1;broker 0 at 0 pace 1;"
                 + "deed 3 from 7 to 7 price 0;deed 4 from 0 to 1 price 0");
         Check.due("half of 3 is 1", z.rests(0, 1, 0, 1), 1);
+        ArchEnds half = Check.of("shower 3 to 3 from 0 to 99;shower 4 to 4 from 0 to 99 chance 50;broker 0 at 0 pace 1;"
+                + "broker 0 at 0 pace 1;deed 3 from 0 to 95 price 0;deed 4 from 13 to 17 price 0;deed 4 from 0 to 95 price 0");
+        Check.due("half of 600 against 250", half.rests(0, 1, 0, 1), 1);
+        Check.due("half of 600 against 300", half.rests(0, 1, 0, 2), 7);
     }
 
     private static void row() {
@@ -387,6 +426,7 @@ final class QuestionsTest {
         Check.dueThrow("row(0, 0)", NO_NUMBER, () -> x.row(0, 0, 0));
         Check.dueThrow("row(21, 0)", NO_NUMBER, () -> x.row(21, 0, 0));
         Check.dueThrow("row(1, 10000)", NO_NUMBER, () -> x.row(1, 10000, 0));
+        Check.due("of 96 minutes from 1 on", Check.of("shower 0 to 15 from 0 to 999").row(1, 1, -1), 84);
         x.road(0);
         Check.due("row by another road", x.row(1, 0, -1), 4);
         Check.due("of 96 minutes", Check.of("shower 0 to 15 from 0 to 999").row(1, 0, -1), 84);
@@ -420,6 +460,9 @@ final class QuestionsTest {
         Check.due("clash()", x.clash(), 4);
         Check.due("clash of none", Check.of("deed 3 from 1 to 12 price 10").clash(), 0);
         Check.due("clash of one minute", Check.of("deed 3 from 1 to 12 price 10;deed 3 from 12 to 12 price 1").clash(), 1);
+        Check.due("clash turned", Check.of("deed 3 from 12 to 12 price 10;deed 3 from 1 to 12 price 1").clash(), 1);
+        Check.due("the first is rich", Check.of("broker 7 at 0 pace 1;broker 6 at 0 pace 1").rich(), 0);
+        Check.due("the poor one alone", Check.of("broker 0 at 0 pace 1").rich(), 0);
         Check.due("no clash", Check.of("deed 3 from 1 to 12 price 10;deed 3 from 13 to 13 price 1").clash(), 0);
     }
 

@@ -108,7 +108,9 @@ final class TextsTest {
         Check.dueThrow("deed(3, 7)", IndexOutOfBoundsException.class, () -> x.deed(3, 7));
         Check.dueThrow("deed(0, 7)", NoSuchElementException.class, () -> x.deed(0, 7));
         Check.due("a text of blanks", Check.county(x, "    "), 3);
-        Check.due("an empty text", Check.county(x, ""), 4);
+        Check.county(x, "road 15;wage 0;minute 0");
+        Check.due("road 15", x.count(6), 15);
+        Check.due("an empty text", Check.county(x, ""), 5);
     }
 
     private static void countyLimits() {
@@ -168,7 +170,12 @@ final class TextsTest {
             {"shower 0 to 1 from 9 to 9 chance", 32}, {"shower 0 to 1 from 9 to 9 chance 5 chance 5", 35},
             {"broker 1 pace 1", 9}, {"broker 1 at 1", 13}, {"broker 1 at 1 pace 0", 19}, {"broker at", 7},
             {"deed 1 to", 7}, {"deed 1 from 5 to 3", 17}, {"deed 1 from 5 to 5 pric 5", 19}, {"deed 1 from 5 to 5", 18},
-            {"minute 9999", 7}, {"cost 5", 0}, {"road(1)", 4}, {"road 1 ; wage", 13}, {"r oad 1", 0}, {"road 1 6", 7}};
+            {"minute 9999", 7}, {"cost 5", 0}, {"road(1)", 4}, {"road 1 ; wage", 13}, {"r oad 1", 0}, {"road 1 6", 7},
+            {"roadz 1", 0}, {"aroad 1", 0}, {"road{1", 4}, {"road`1", 4}, {"road /", 5}, {"road :", 5}, {"road 1:", 6},
+            {"shower 16 to 16", 7}, {"shower 0 to 1 from 9 to 9 chance 101", 33}, {"shower 0 to 1 from 9 to 1000", 24},
+            {"broker 1000 at 1", 7}, {"broker 1 at 16 pace 1", 12}, {"broker 1 at 1 pace 5", 19}, {"deed 16 from 1", 5},
+            {"deed 1 from 1000", 12}, {"deed 1 from 1 to 1000", 17}, {"deed 1 from 1 to 1 price 1000", 25}, {"road 16", 5},
+            {";".repeat(400), 0}, {"road 1;".repeat(14) + ";".repeat(302), 98}, {" ".repeat(399) + "x", 399}};
         for (Object[] f : faults) {
             countyFault(x, (String) f[0], (Integer) f[1]);
         }
@@ -220,6 +227,8 @@ final class TextsTest {
                 + "and not wet and not wet and not wet"), 1);
         Check.due("a law in place of the one before", x.count(4), 1);
         Check.due("fault of a right text", x.fault(), -1);
+        Check.due("a sum of 399 bytes", Check.law(x, "cost 1 if 1" + "+1".repeat(193) + ">2"), 1);
+        lawFault(x, "cost 1 if 1" + "+1".repeat(193) + ">+2", 398);
     }
 
     private static void lawConditions() {
