@@ -18,6 +18,7 @@ final class ActsTest {
         draws();
         purseHasALimit();
         logOfSixty();
+        logOfOneMore();
         lastMinute();
         ahead();
         trialAndSpan();
@@ -279,6 +280,20 @@ final class ActsTest {
         Check.due("rows undone", x.count(10), 48);
         Check.due("the latest then", x.log(0, 0), 96 + 30);
         Check.due("the first then", x.log(47, 0), 13);
+    }
+
+    private static void logOfOneMore() {
+        ArchEnds x = Check.of("broker 999 at 0 pace 2;wage 0;shower 0 to 15 from 0 to 999;deed 4 from 0 to 999 price 0");
+        x.buy(0, 0);
+        for (int i = 0; i < 10; i++) {
+            x.minutes(96);
+        }
+        Check.due("60 rows", x.count(10), 60);
+        Check.due("the first", x.log(59, 0), 13);
+        x.minutes(14);
+        Check.due("60 rows, not 61", x.count(10), 60);
+        Check.due("the latest", x.log(0, 0), 973);
+        Check.due("the last one kept", x.log(59, 0), 14);
     }
 
     private static void lastMinute() {

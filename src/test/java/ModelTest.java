@@ -81,7 +81,8 @@ final class ModelTest {
     }
 
     private boolean run() {
-        boolean right = random.nextInt(4) == 0 || text("county", livelyText());
+        int start = random.nextInt(6);
+        boolean right = start == 0 || (start == 1 ? fullCounty() : livelyCounty());
         right = right && text("county", countyText(random.nextBoolean() ? 14 : 4));
         if (random.nextInt(3) > 0) {
             right = right && text("law", lawText());
@@ -159,9 +160,9 @@ final class ModelTest {
             default -> "nnnnn";
         };
         return switch (kinds.charAt(i)) {
-            case 's' -> random.nextInt(4);
-            case 'b' -> random.nextInt(4) - (name.equals("send") ? 1 : 0);
-            case 'd' -> random.nextInt(6);
+            case 's' -> oneOf(model.count(0));
+            case 'b' -> oneOf(model.count(1) + (name.equals("send") ? 1 : 0)) - (name.equals("send") ? 1 : 0);
+            case 'd' -> oneOf(model.count(2));
             case 'w' -> random.nextInt(7);
             case 'm' -> random.nextInt(random.nextInt(4) == 0 ? 1200 : 110);
             case 'a' -> random.nextInt(16);
@@ -170,6 +171,11 @@ final class ModelTest {
             case 'c' -> random.nextInt(13);
             default -> 1 + random.nextInt(96);
         };
+    }
+
+    /** Mostly one that there is. */
+    private int oneOf(int size) {
+        return random.nextInt(random.nextInt(10) == 0 || size == 0 ? size + 1 : size);
     }
 
     private boolean tapeFor(String name) {
@@ -225,8 +231,30 @@ final class ModelTest {
         return text.toString();
     }
 
+    /** As many showers, brokers and deeds as there can be. */
+    private boolean fullCounty() {
+        StringBuilder first = new StringBuilder("road 8");
+        StringBuilder second = new StringBuilder("wage 8");
+        StringBuilder third = new StringBuilder("wage 9");
+        for (int i = 0; i < 6; i++) {
+            first.append(";shower ").append(upTo(8)).append(" to 9 from ").append(upTo(9)).append(" to ").append(10 + upTo(80));
+            first.append(random.nextBoolean() ? " east 1" : "").append(random.nextBoolean() ? " chance 60" : "");
+        }
+        for (int i = 0; i < 5; i++) {
+            second.append(";broker ").append(99 + upTo(900)).append(" at ").append(upTo(15)).append(" pace ").append(1 + upTo(3));
+        }
+        for (int i = 0; i < 8; i++) {
+            third.append(";deed ").append(2 + upTo(5)).append(" from ").append(upTo(9)).append(" to ").append(20 + upTo(60));
+            third.append(" price ").append(upTo(99));
+        }
+        boolean right = text("county", first.toString()) && text("county", second.toString())
+                && text("county", third.toString());
+        Check.due("a full county", real.count(0) * 100 + real.count(1) * 10 + real.count(2), 658);
+        return right;
+    }
+
     /** Brokers with money, and deeds for acres under a foot while showers are likely. */
-    private String livelyText() {
+    private boolean livelyCounty() {
         StringBuilder text = new StringBuilder("road " + (6 + upTo(4)) + ";wage " + upTo(99));
         for (int i = 2 + upTo(1); i > 0; i--) {
             text.append(";broker ").append(300 + upTo(699)).append(" at ").append(upTo(15)).append(" pace ").append(1 + upTo(3));
@@ -235,13 +263,16 @@ final class ModelTest {
             text.append(";deed ").append(2 + upTo(11)).append(" from ").append(upTo(9)).append(" to ").append(20 + upTo(200));
             text.append(" price ").append(upTo(99));
         }
+        StringBuilder more = new StringBuilder("road 8");
         for (int i = 1 + upTo(2); i > 0; i--) {
             int low = upTo(9);
-            text.append(";shower ").append(low).append(" to ").append(low + upTo(6)).append(" from ").append(upTo(30));
-            text.append(" to ").append(31 + upTo(200)).append(random.nextBoolean() ? " east 1" : "");
-            text.append(random.nextBoolean() ? " chance 60" : "");
+            more.append(";shower ").append(low).append(" to ").append(low + upTo(6)).append(" from ").append(upTo(30));
+            more.append(" to ").append(31 + upTo(200)).append(random.nextBoolean() ? " east 1" : "");
+            more.append(random.nextBoolean() ? " chance 60" : "");
         }
-        return text.toString();
+        boolean right = text("county", text.toString()) && text("county", more.toString());
+        Check.due("a lively county", real.count(0) > 0 && real.count(1) > 1 && real.count(2) > 1, true);
+        return right;
     }
 
     private String countyLine() {
