@@ -1100,11 +1100,8 @@ public final class ArchEnds {
             int top = 0;
             for (int i = line == 0 ? 0 : ends[line - 1]; i < ends[line]; i++) {
                 int code = steps[i];
-                if (code < FACT) {
-                    stack[top] = code;
-                    top++;
-                } else if (code - FACT < facts.length) {
-                    stack[top] = facts[code - FACT];
+                if (code - FACT < facts.length && top < stack.length) {
+                    stack[top] = code < FACT ? code : facts[code - FACT];
                     top++;
                 } else if (code == NEGATE && top >= 1) {
                     stack[top - 1] = 1 - stack[top - 1];
@@ -1832,7 +1829,7 @@ public final class ArchEnds {
             int sum = 0;
             for (int i = 0; i < county.deedCount; i++) {
                 for (int j = 0; j < i; j++) {
-                    if (haveMinuteInCommon(county.deeds[i], county.deeds[j])) {
+                    if (areOfOneAcreAndMinute(county.deeds[i], county.deeds[j])) {
                         sum++;
                     }
                 }
@@ -1840,7 +1837,7 @@ public final class ArchEnds {
             return sum;
         }
 
-        private static boolean haveMinuteInCommon(Deed one, Deed other) {
+        private static boolean areOfOneAcreAndMinute(Deed one, Deed other) {
             return one.acre == other.acre && one.firstMinute <= other.lastMinute
                     && other.firstMinute <= one.lastMinute;
         }
