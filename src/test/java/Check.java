@@ -4,6 +4,7 @@ import java.nio.charset.StandardCharsets;
 final class Check {
     private static int wrong = 0;
     private static int done = 0;
+    private static String about = "";
 
     private Check() {
     }
@@ -12,11 +13,20 @@ final class Check {
         long run();
     }
 
+    /** The sentence that is tested, told with each wrong answer. */
+    static void about(String sentence) {
+        about = sentence.isEmpty() ? "" : "[" + sentence + "] ";
+    }
+
+    static int done() {
+        return done;
+    }
+
     static void due(String what, long got, long want) {
         done++;
         if (got != want) {
             wrong++;
-            System.out.println(what + " answered " + got + ", due is " + want);
+            System.out.println(about + what + " answered " + got + ", due is " + want);
         }
     }
 
@@ -36,7 +46,7 @@ final class Check {
             }
         }
         wrong++;
-        System.out.println(what + " answered " + got + ", due is " + want.getName());
+        System.out.println(about + what + " answered " + got + ", due is " + want.getName());
     }
 
     static void tape(ArchEnds x, byte[] bytes) {

@@ -177,8 +177,9 @@ final class TextsTest {
             {"deed 1 from 1000", 12}, {"deed 1 from 1 to 1000", 17}, {"deed 1 from 1 to 1 price 1000", 25}, {"road 16", 5},
             {";".repeat(400), 0}, {"road 1;".repeat(14) + ";".repeat(302), 98}, {" ".repeat(399) + "x", 399}};
         for (Object[] f : faults) {
-            countyFault(x, (String) f[0], (Integer) f[1]);
+            countyFault(new ArchEnds(), (String) f[0], (Integer) f[1]);
         }
+        countyFault(x, "shower 0 to 1 from 9 to 9;broker 1 at 1 pace 1;deed 1 from 5 to 5 price 5;minute 9;road 1;wage 9;", 97);
         Check.due("nothing stays", x.count(0) + x.count(1) + x.count(2) + x.count(3) + x.count(5), 0);
         Check.due("road", x.count(6), 8);
         Check.due("wage", x.count(7), 5);
