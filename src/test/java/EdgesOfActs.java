@@ -32,33 +32,47 @@ final class EdgesOfActs {
         manyCalls(s);
     }
 
-    /** All but the acts remembered that can be asked without a change; the seed is put back. */
+    /** All but the acts remembered that can be asked without a change, in some sixty calls; the seed is put back. */
     static String allOf(ArchEnds x) {
         StringBuilder all = new StringBuilder();
+        int[] counts = new int[11];
         for (int what = 0; what <= 10; what++) {
-            all.append(x.count(what)).append(' ');
+            counts[what] = x.count(what);
+            all.append(counts[what]).append(' ');
         }
-        for (int i = 0; i < x.count(0); i++) {
+        for (int i = 0; i < counts[0]; i++) {
             for (int what = 0; what <= 6; what++) {
                 all.append(x.shower(i, what)).append(' ');
             }
         }
-        for (int i = 0; i < x.count(1); i++) {
+        for (int i = 0; i < counts[1]; i++) {
             for (int what = 0; what <= 5; what++) {
                 all.append(x.broker(i, what)).append(' ');
             }
         }
-        for (int i = 0; i < x.count(2); i++) {
+        for (int i = 0; i < counts[2]; i++) {
             for (int what = 0; what <= 6; what++) {
                 all.append(x.deed(i, what)).append(' ');
             }
         }
         for (int what = 0; what <= 3; what++) {
-            all.append(x.log(0, what)).append(' ').append(x.log(x.count(10) - 1, what)).append(' ');
+            all.append(x.log(0, what)).append(' ').append(x.log(counts[10] - 1, what)).append(' ');
         }
         int seed = x.seed(0);
         x.seed(seed);
         return all.append(seed).toString();
+    }
+
+    private static void act(ArchEnds x, int number) {
+        switch (number) {
+            case 0 -> x.buy(0, 0);
+            case 1 -> x.sell(0, 1);
+            case 2 -> x.insure(0);
+            case 3 -> x.go(1, 6);
+            case 4 -> x.tell(0, 1);
+            case 5 -> x.road(9);
+            default -> x.minutes(20);
+        }
     }
 
     private static void prices(Sentences s) {
@@ -671,27 +685,36 @@ final class EdgesOfActs {
     private static void undone(Sentences s) {
         s.edge(Sentences.TERMS, "UNDONE: the latest ACT not undone yet (12 are remembered; MINUTES of one call are one): "
                 + "all is as ahead of it (but for the TAPE, fault(), THE IMAGE).", () -> {
-            ArchEnds x = Check.of(FAIR);
-            String[] ahead = new String[8];
-            Runnable[] acts = {() -> x.buy(0, 0), () -> x.sell(0, 1), () -> x.insure(0), () -> x.go(1, 6), () -> x.tell(0, 1),
-                () -> x.road(9), () -> x.minutes(20)};
-            for (int i = 0; i < acts.length; i++) {
-                ahead[i] = allOf(x);
-                acts[i].run();
-                Check.due("acts", x.count(11), i + 1);
-            }
-            x.image();
-            EdgesOfTexts.countyFault(x, "road 1;", 7);
-            x.feed(0x726F6164, 0x20333B77, 0x61676520, 0x373B6D69, 0x6E757465);
-            for (int i = acts.length - 1; i >= 0; i--) {
+            for (int last = 0; last <= 6; last++) {
+                ArchEnds x = Check.of(FAIR);
+                for (int i = 0; i < last; i++) {
+                    act(x, i);
+                }
+                String ahead = allOf(x);
+                act(x, last);
+                Check.due("acts", x.count(11), last + 1);
+                Check.due("act " + last + " changes something", allOf(x).equals(ahead), false);
                 Check.due("undo", x.undo(), true);
-                Check.due("as ahead of act " + i, allOf(x).equals(ahead[i]), true);
+                Check.due("as ahead of act " + last, allOf(x).equals(ahead), true);
             }
-            Check.due("no more", x.undo(), false);
-            Check.due("fault stays", x.fault(), 7);
-            Check.due("the image stays", x.back(), true);
-            Check.due("road of the image", x.count(6), 9);
-            Check.due("the tape stays", x.end(20), true);
+            ArchEnds y = Check.of(FAIR);
+            String ahead = allOf(y);
+            for (int i = 0; i <= 6; i++) {
+                act(y, i);
+            }
+            y.image();
+            EdgesOfTexts.countyFault(y, "road 1;", 7);
+            y.feed(0x726F6164, 0x20333B77, 0x61676520, 0x373B6D69, 0x6E757465);
+            for (int i = 6; i >= 0; i--) {
+                Check.due("undo act " + i, y.undo(), true);
+                Check.due("acts", y.count(11), i);
+            }
+            Check.due("no more", y.undo(), false);
+            Check.due("as ahead of all of them", allOf(y).equals(ahead), true);
+            Check.due("fault stays", y.fault(), 7);
+            Check.due("the image stays", y.back(), true);
+            Check.due("road of the image", y.count(6), 9);
+            Check.due("the tape stays", y.end(20), true);
         });
         s.edge(Sentences.TERMS, "all is as ahead of it", () -> {
             ArchEnds x = Check.of("broker 9 at 0 pace 2;wage 1;shower 0 to 15 from 0 to 999;deed 4 from 0 to 999 price 0");

@@ -63,7 +63,7 @@ final class EdgesOfRefusals {
             Check.due("the tape is as long", x.end(21), false);
             Check.due("the tape stays", x.end(20), true);
             x.undo();
-            Check.due("the act is as it was", EdgesOfActs.allOf(x).equals(all), true);
+            Check.due("the act is as it was", x.count(6), 8);
             x.back();
             Check.due("the image is as it was", EdgesOfActs.allOf(x).equals(all), true);
         });
