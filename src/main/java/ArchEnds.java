@@ -28,7 +28,7 @@ public final class ArchEnds {
     private static final int COMES = 1;
     private static final int STAYS_AWAY = 2;
 
-    /** Codes of a law's steps: below FACT a number, from FACT on one of the FACTS of a case, from NEGATE on what is done. */
+    /** Codes of a law's steps: below FACT a number, from FACT on one of a case's FACTS, from NEGATE on what is done. */
     private static final int FACT = 1000;
     private static final int FACTS = 8;
     private static final int NEGATE = 1100;
@@ -628,7 +628,8 @@ public final class ArchEnds {
 
     /** The words and signs of both texts; code is what a word or sign does as a step of a law. */
     private enum Sign {
-        SHOWER("shower", 0), BROKER("broker", 0), DEED("deed", 0), ROAD("road", 0), WAGE("wage", 0), MINUTE("minute", 0),
+        SHOWER("shower", 0), BROKER("broker", 0), DEED("deed", 0),
+        ROAD("road", 0), WAGE("wage", 0), MINUTE("minute", 0),
         TO("to", 0), FROM("from", 0), EAST("east", 0), WEST("west", 0), CHANCE("chance", 0),
         AT("at", 0), PACE("pace", 0), PRICE("price", 0),
         COST("cost", 0), BRING("bring", 0), SLOW("slow", 0), IF("if", 0),
@@ -1060,7 +1061,7 @@ public final class ArchEnds {
         }
     }
 
-    /** Lines with conditions, each as steps that work on a stack; it is never changed, so that counties may share it. */
+    /** Lines with conditions, each as steps on a stack; what it says never changes, so that counties may share it. */
     private static final class Law {
         final int lines;
         private final Sign[] heads;
